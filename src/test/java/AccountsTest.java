@@ -108,18 +108,34 @@ public final class AccountsTest {
 
     private static void undoEachChange() {
         SugarTowers hotel = usedHotel();
+        Checks.answerOf(hotel::read);
         Object before = observed(hotel);
         Runnable[] changes = {() -> hotel.humidity(9, 3), () -> hotel.buy(2, 4), hotel::tower, () -> hotel.tongs(4),
             () -> hotel.lay(0, 1, 0, 2), () -> hotel.take(0), () -> hotel.banquet(70, 3, 7), () -> hotel.show(2, 1),
-            () -> hotel.cancel(2), () -> hotel.pass(72)};
+            () -> hotel.cancel(2), () -> hotel.pass(72), () -> Checks.read(hotel, "b0+2;h9")};
+        hotel.save();
         for (int i = 0; i < changes.length; i++) {
+            hotel.restore();
             changes[i].run();
-            CHECKS.due("34: counts, change " + i, 8, () -> hotel.account(16));
-            CHECKS.due("34: is undone, change " + i, 7, hotel::undo);
+            Object after = observed(hotel);
+            CHECKS.due("34: makes a difference, change " + i, false, () -> before.equals(after));
+            CHECKS.due("34: counts, change " + i, 1, () -> hotel.account(16));
+            CHECKS.due("34: is undone, change " + i, 0, hotel::undo);
             CHECKS.due("34: all is as before, change " + i, before, () -> observed(hotel));
-            hotel.humidity(0, 45);
         }
+        changesWithoutADifference();
         refusedChangesDoNotCount();
+    }
+
+    private static void changesWithoutADifference() {
+        SugarTowers hotel = usedHotel();
+        hotel.show(2, 0);
+        hotel.save();
+        hotel.restore();
+        hotel.humidity(0, 45);
+        CHECKS.due("34: the same humidity counts", 1, () -> hotel.account(16));
+        hotel.show(2, 0);
+        CHECKS.due("34: the same tower counts", 2, () -> hotel.account(16));
     }
 
     private static void refusedChangesDoNotCount() {

@@ -89,7 +89,9 @@ public final class BanquetsTest {
         CHECKS.due("22: one waits", 1, () -> hotel.cancel(2));
         CHECKS.due("22: none waits", 0, () -> hotel.cancel(0));
         CHECKS.due("22: numbers go on", 3, () -> hotel.banquet(9, 1, 1));
-        CHECKS.due("22: none is held or spoilt", 0, () -> hotel.account(6) + hotel.account(7));
+        hotel.pass(20);
+        CHECKS.due("22: those dropped are not held", 0, () -> hotel.account(6));
+        CHECKS.due("22: and not spoilt", 1, () -> hotel.account(7));
         CHECKS.dueThrow("22: banquet -1", NoSuchElementException.class, () -> hotel.cancel(-1));
         CHECKS.dueThrow("22: banquet 4", NoSuchElementException.class, () -> hotel.cancel(4));
     }

@@ -75,6 +75,9 @@ public final class TowersTest {
         refused("10: busy before all below", hotel, new int[] {0, 0, 2, 20}, 4, 5);
         refused("10: reach before stock", hotel, new int[] {0, 1, 2, 20}, 5, 1);
         hotel.pass(5);
+        hotel.lay(1, 1, 0, 4);
+        refused("10: busy for an hour", hotel, new int[] {1, 1, 0, 4}, 4, 1);
+        hotel.take(1);
         refused("10: stock before width", hotel, new int[] {0, 0, 2, 6}, 6, 5);
         CHECKS.due("10: course 1", 1, () -> hotel.lay(0, 0, 2, 5));
         hotel.pass(5);
@@ -279,6 +282,7 @@ public final class TowersTest {
         CHECKS.due("18: nothing above", true, () -> hotel.stands(0, 99));
         layAndRest(hotel, 0, 0, 4);
         layAndRest(hotel, 0, 0, 4);
+        CHECKS.due("18: at no dampness", true, () -> hotel.stands(0, 0));
         CHECKS.due("18: just", true, () -> hotel.stands(0, 29));
         CHECKS.due("18: just not", false, () -> hotel.stands(0, 30));
         CHECKS.dueThrow("18: no tower", IndexOutOfBoundsException.class, () -> hotel.stands(2, 100));
