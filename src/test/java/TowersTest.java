@@ -124,6 +124,9 @@ public final class TowersTest {
         CHECKS.dueThrow("11: nothing is refused by it", NoSuchElementException.class, () -> hotel.refusal(false));
         CHECKS.due("11: nothing is laid by it", 0, () -> hotel.account(13));
         CHECKS.due("11: it is no change", 7, () -> hotel.account(16));
+        layAndRest(hotel, 0, 0, 5);
+        CHECKS.due("11: wider than the lowest", 7, () -> hotel.why(0, 0, 0, 6));
+        CHECKS.due("11: as wide as the lowest", 0, () -> hotel.why(0, 0, 0, 5));
     }
 
     private static void take() {
