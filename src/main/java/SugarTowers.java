@@ -701,7 +701,7 @@ public final class SugarTowers {
 
         int addTongs(int reach) {
             int number = tongsCount;
-            if (number < MAX_TONGS) {
+            if (number >= 0 && number < MAX_TONGS) {
                 tongsRow[number].start(reach);
                 tongsCount++;
             }
@@ -735,7 +735,7 @@ public final class SugarTowers {
 
         int addTower() {
             int number = towerCount;
-            if (number < MAX_TOWERS) {
+            if (number >= 0 && number < MAX_TOWERS) {
                 towerRow[number].start();
                 towerCount++;
             }
@@ -825,7 +825,7 @@ public final class SugarTowers {
 
         int addBanquet(int itsHour, int courses, int itsCoins) {
             int number = nextBanquet;
-            if (waiting < MAX_BANQUETS) {
+            if (waiting >= 0 && waiting < MAX_BANQUETS) {
                 banquetRow[waiting].start(number, itsHour, courses, itsCoins);
                 waiting++;
                 nextBanquet++;

@@ -29,6 +29,7 @@ public final class TermsOfHoursTest {
         asManyCoursesOrMore();
         spoiltOtherwise();
         heldByNumbers();
+        sixOfOneHour();
         breaksBeforeABanquet();
         dampBeforeABanquet();
         CHECKS.end();
@@ -389,6 +390,28 @@ public final class TermsOfHoursTest {
         }
         hotel.pass(1);
         CHECKS.due("1 and 3 are held, 0 and 2 are not", 2 + 8, () -> hotel.account(14));
+    }
+
+    /** All banquets of the hour are held, and wait no more, as many as can wait. */
+    private static void sixOfOneHour() {
+        SugarTowers hotel = Hotels.stocked(6);
+        for (int i = 0; i < 6; i++) {
+            Hotels.layOnes(hotel, i, SOFT);
+            hotel.banquet(7, 1, 1 << i);
+            hotel.show(i, i);
+        }
+        hotel.pass(1);
+        CHECKS.due("all are held", 6, () -> hotel.account(6));
+        CHECKS.due("the coins of all", 63, () -> hotel.account(14));
+        CHECKS.due("all is eaten", 6, () -> hotel.account(12));
+        CHECKS.due("none waits", 0, () -> hotel.account(5));
+        CHECKS.dueThrow("none is next", NoSuchElementException.class, hotel::next);
+        for (int i = 0; i < 6; i++) {
+            hotel.banquet(8, 1, 1);
+        }
+        hotel.pass(1);
+        CHECKS.due("all are spoilt", 6, () -> hotel.account(7));
+        CHECKS.due("none waits again", 0, () -> hotel.account(5));
     }
 
     /** What breaks in an hour is not there for the banquets of the hour that is now then. */

@@ -122,7 +122,7 @@ public final class TermsOfUndoTest {
         CHECKS.due("nothing is different", before, () -> State.ofChanges(hotel));
         for (int left = 3; left >= 1; left--) {
             CHECKS.due("undone", left, hotel::undo);
-            CHECKS.due("nothing is different still", before, () -> State.ofChanges(hotel));
+            CHECKS.due("the tower is shown still", 1, () -> hotel.banquetOf(2, 3));
         }
         hotel.undo();
         CHECKS.due("no tower is shown", -1, () -> hotel.banquetOf(2, 3));
