@@ -13,6 +13,7 @@ public final class TermsOfHoursTest {
         coursesAndCoinsOfABanquet();
         noTowerAtFirst();
         towerOfSeveralBanquets();
+        towerStaysTheOneOfABanquet();
         dampnessByHumidity();
         dampnessAtMost99();
         dampnessAtLeast0();
@@ -113,6 +114,39 @@ public final class TermsOfHoursTest {
         CHECKS.due("the first one still has it", 0, () -> hotel.banquetOf(0, 3));
     }
 
+    private static void bothHaveTower1(String when, SugarTowers hotel) {
+        CHECKS.due("no courses " + when, 0, () -> hotel.towerOf(1, 0));
+        CHECKS.due("banquets that have it " + when, 2, () -> hotel.towerOf(1, 3));
+        CHECKS.due("the first one has it " + when, 1, () -> hotel.banquetOf(0, 3));
+        CHECKS.due("the second one has it " + when, 1, () -> hotel.banquetOf(1, 3));
+    }
+
+    /** It stays the one of those that wait, as its courses are taken off, break or are eaten, and as others go. */
+    private static void towerStaysTheOneOfABanquet() {
+        SugarTowers hotel = Hotels.stocked(2);
+        hotel.banquet(90, 1, 1);
+        hotel.banquet(91, 1, 1);
+        hotel.show(0, 1);
+        hotel.show(1, 1);
+        Hotels.layOnes(hotel, 1, SOFT);
+        hotel.take(1);
+        bothHaveTower1("as the last course is taken off", hotel);
+        Hotels.layOnes(hotel, 1, SOFT);
+        int hour = hotel.account(0);
+        hotel.banquet(hour + 1, 1, 1);
+        hotel.show(2, 1);
+        hotel.banquet(hour + 1, 1, 1);
+        hotel.show(3, 0);
+        hotel.pass(1);
+        bothHaveTower1("as it was eaten", hotel);
+        hotel.cancel(hotel.banquet(99, 1, 1));
+        bothHaveTower1("as another banquet was dropped", hotel);
+        Hotels.layOnes(hotel, 1, SOFT, SOFT);
+        Hotels.dampen(hotel, 40);
+        CHECKS.due("all of it broke", 2, () -> hotel.towerOf(1, 4));
+        bothHaveTower1("as all of it broke", hotel);
+    }
+
     /**
      * The dampness becomes a tenth of what the humidity is above 50 more; if the humidity is below 40, it becomes 1
      * less.
@@ -202,13 +236,17 @@ public final class TermsOfHoursTest {
         Hotels.lay(hotel, 0, SOFT, 3);
         Hotels.lay(hotel, 0, HARD, 3);
         Hotels.lay(hotel, 0, SOFT, 1);
-        Hotels.layOnes(hotel, 0, FIRM);
+        Hotels.layOnes(hotel, 0, FIRM, FIRM);
         Hotels.dampen(hotel, 29);
-        CHECKS.due("before", 5, () -> hotel.towerOf(0, 0));
-        CHECKS.due("course 1 bears 3 and has 5 above, course 3 bears 1", 4, () -> Hotels.passAt(hotel, 60));
+        CHECKS.due("before", 6, () -> hotel.towerOf(0, 0));
+        CHECKS.due("course 1 bears 6", 6, () -> hotel.courseOf(0, 1, 3));
+        CHECKS.due("6 are above course 1", 6, () -> hotel.courseOf(0, 1, 2));
+        CHECKS.due("course 3 bears 2", 2, () -> hotel.courseOf(0, 3, 3));
+        CHECKS.due("2 are above course 3", 2, () -> hotel.courseOf(0, 3, 2));
+        CHECKS.due("both are too weak then, course 1 breaks", 5, () -> Hotels.passAt(hotel, 60));
         CHECKS.due("the lowest course stays", 1, () -> hotel.towerOf(0, 0));
         CHECKS.due("it is the hard one", HARD, () -> hotel.courseOf(0, 0, 0));
-        CHECKS.due("cubes that broke", 8, () -> hotel.account(11));
+        CHECKS.due("cubes that broke", 9, () -> hotel.account(11));
         SugarTowers high = Hotels.stocked(1);
         Hotels.layOnes(high, 0, HARD, HARD, SOFT, FIRM);
         Hotels.dampen(high, 39);
@@ -443,5 +481,12 @@ public final class TermsOfHoursTest {
         CHECKS.due("7 and 4", 11, () -> hotel.towerOf(1, 2));
         Hotels.passAt(hotel, 99);
         CHECKS.due("damp again an hour later", 4, () -> hotel.towerOf(0, 2));
+        Hotels.layOnes(hotel, 1, HARD);
+        Hotels.dampen(hotel, 99);
+        CHECKS.due("as damp as can be", 99, () -> hotel.towerOf(1, 2));
+        hotel.show(hotel.banquet(hotel.account(0) + 1, 1, 30), 1);
+        Hotels.passAt(hotel, 99);
+        CHECKS.due("0 from 99", 0, () -> hotel.towerOf(1, 2));
+        CHECKS.due("99 stays", 99, () -> hotel.towerOf(0, 2));
     }
 }

@@ -407,8 +407,13 @@ public final class TermsOfTextsTest {
         Hotels.dampen(uppermost, 40);
         layIsRefused("the uppermost course bears nothing", uppermost, new int[] {0, 0, 2, 1}, 8, 1);
         SugarTowers two = Hotels.stocked(1);
+        Hotels.lay(two, 0, 0, 2);
         Hotels.layOnes(two, 0, 0, 0);
         Hotels.dampen(two, 30);
+        CHECKS.due("course 0 bears 2", 2, () -> two.courseOf(0, 0, 3));
+        CHECKS.due("as much is above course 0", 2, () -> two.courseOf(0, 0, 2));
+        CHECKS.due("course 1 bears 1", 1, () -> two.courseOf(0, 1, 3));
+        CHECKS.due("as much is above course 1", 1, () -> two.courseOf(0, 1, 2));
         layIsRefused("both would be, the lowest counts", two, new int[] {0, 0, 0, 1}, 8, 0);
         SugarTowers itself = Hotels.stocked(1);
         Hotels.dampen(itself, 99);

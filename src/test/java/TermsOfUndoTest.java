@@ -34,7 +34,8 @@ public final class TermsOfUndoTest {
 
     /**
      * The hour 17 with 6 towers: 0 with 10 courses, 1 with one of 5 cubes, 2 that can bear no more, others without
-     * courses; 4 tongs, 0 of them busy, 1 of reach 1; 6 banquets; no coins; a reason, an error and an input.
+     * courses; 4 tongs, 0 of them busy, 1 of reach 1; 6 banquets; no coins; a reason, an error and an input. Two
+     * changes can be undone, less than 8, so that one more would be seen.
      */
     private static SugarTowers fullHotel() {
         SugarTowers hotel = Hotels.stocked(6);
@@ -50,6 +51,12 @@ public final class TermsOfUndoTest {
         hotel.show(1, 0);
         hotel.lay(3, 0, 0, 10);
         hotel.take(3);
+        for (int i = 0; i < 6; i++) {
+            hotel.humidity(0, 45);
+        }
+        for (int i = 0; i < 6; i++) {
+            hotel.undo();
+        }
         Checks.read(hotel, "b0?");
         Checks.answerOf(() -> hotel.take(5));
         Checks.type(hotel, "h1;");
@@ -244,6 +251,16 @@ public final class TermsOfUndoTest {
         CHECKS.dueThrow(what, due, () -> act.on(hotel));
         CHECKS.due("all stays by " + what, before, () -> State.of(hotel));
         CHECKS.due("the input stays by " + what, 2, () -> Checks.read(hotel, "h2"));
+        hotel.undo();
+        undoneIsTheTake(what, hotel);
+    }
+
+    /** The latest change of the full hotel is the one that is undone. */
+    private static void undoneIsTheTake(String what, SugarTowers hotel) {
+        CHECKS.due("two changes in spite of " + what, 2, () -> hotel.account(16));
+        CHECKS.due("no course yet in spite of " + what, 0, () -> hotel.towerOf(3, 0));
+        CHECKS.due("the take is undone in spite of " + what, 1, hotel::undo);
+        CHECKS.due("the course is there again in spite of " + what, 1, () -> hotel.towerOf(3, 0));
     }
 
     /** A method that throws an exception leaves the state unchanged. */
@@ -297,6 +314,7 @@ public final class TermsOfUndoTest {
         CHECKS.due("all but the reason stays by " + what, before, () -> State.ofAllButReason(hotel));
         CHECKS.due("the reason of " + what, reason, () -> hotel.refusal(false));
         CHECKS.due("the detail of " + what, detail, () -> hotel.refusal(true));
+        undoneIsTheTake(what, hotel);
     }
 
     /** Also if something is refused; the reason alone is kept. */

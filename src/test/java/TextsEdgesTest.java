@@ -16,6 +16,7 @@ public final class TextsEdgesTest {
         readOrdersAtTheEdges();
         readRefusals();
         readUndone();
+        readAfterSave();
         errorPositionOfTheLatest();
         refusalOfTheLatest();
         CHECKS.end();
@@ -159,6 +160,23 @@ public final class TextsEdgesTest {
         CHECKS.due("27: held by then", 1, () -> hotel.account(6));
         CHECKS.due("34: undone", 7, hotel::undo);
         CHECKS.due("34: all is as before", before, () -> State.ofChanges(hotel));
+    }
+
+    /** 27: Orders go on from what is now, whatever the snapshot and an earlier text that was refused are. */
+    private static void readAfterSave() {
+        SugarTowers hotel = Hotels.rich(0);
+        hotel.buy(0, 5);
+        hotel.save();
+        hotel.buy(0, 10);
+        hotel.pass(3);
+        CHECKS.due("27: refused", UNSUPPORTED, () -> Checks.read(hotel, "b1+20;h9;t0"));
+        CHECKS.due("27: two orders", 2, () -> Checks.read(hotel, "b0+1;h1"));
+        CHECKS.due("5: cubes of all", 16, () -> hotel.stock(0));
+        CHECKS.due("5: none of what was refused", 0, () -> hotel.stock(1));
+        CHECKS.due("30: coins", 84, () -> hotel.account(1));
+        CHECKS.due("30: hours", 4, () -> hotel.account(0));
+        hotel.restore();
+        CHECKS.due("36: cubes of the snapshot", 5, () -> hotel.stock(0));
     }
 
     /** 28: Of the text of the latest call of read, or -1 if read has not been called. */

@@ -23,17 +23,20 @@ public final class TowersEdgesTest {
         towerWithoutCourses();
         banquetsOfATower();
         brokenCoursesAddUp();
+        brokenCoursesStayAsATowerIsEaten();
         spareAtMost20();
         spareOfNone();
         spareOfTheWeakestCourse();
         spareWhateverElse();
         signs();
+        signByAnyCourse();
         standsAtBothEnds();
         standsAtSomeOtherDampness();
         breaksInOneHour();
         breaksWithin72Hours();
         breaksRoundTheDay();
         breaksNever();
+        breaksInOfThisTower();
         breaksThoughABanquetIsHeld();
         breaksInChangesNothing();
         CHECKS.end();
@@ -300,6 +303,21 @@ public final class TowersEdgesTest {
         CHECKS.due("33: share", 11f / 60f, hotel::broken);
     }
 
+    /** 15: The courses that broke so far, also after what was laid then is eaten or taken off. */
+    private static void brokenCoursesStayAsATowerIsEaten() {
+        SugarTowers hotel = Hotels.stocked(1);
+        Hotels.layOnes(hotel, 0, SOFT, HARD);
+        Hotels.dampen(hotel, 40);
+        CHECKS.due("15: two broke", 2, () -> hotel.towerOf(0, 4));
+        Hotels.layOnes(hotel, 0, HARD, HARD);
+        hotel.take(0);
+        CHECKS.due("15: as one is taken off", 2, () -> hotel.towerOf(0, 4));
+        hotel.show(hotel.banquet(hotel.account(0) + 1, 1, 1), 0);
+        hotel.pass(1);
+        CHECKS.due("12: eaten", 1, () -> hotel.account(12));
+        CHECKS.due("15: as one is eaten", 2, () -> hotel.towerOf(0, 4));
+    }
+
     /** 16: 20 at most. */
     private static void spareAtMost20() {
         int[] cubes = {4, 5, 6, 20};
@@ -386,6 +404,31 @@ public final class TowersEdgesTest {
         CHECKS.due("17: 1 more at the dampness 39", 's', () -> hotel.sign(1));
         Hotels.dampen(hotel, 1);
         CHECKS.due("17: no more at the dampness 40", 'w', () -> hotel.sign(1));
+    }
+
+    /** 17: "w" if a course could bear no cube more, be it the lowest, a middle or the uppermost one. */
+    private static void signByAnyCourse() {
+        SugarTowers lowest = Hotels.stocked(1);
+        Hotels.layOnes(lowest, 0, SOFT, HARD, HARD, HARD);
+        Hotels.dampen(lowest, 10);
+        CHECKS.due("17: the lowest bears 3 and has 3 above", 'w', () -> lowest.sign(0));
+        CHECKS.due("17: none to spare", 0, () -> lowest.spare(0));
+        SugarTowers middle = Hotels.stocked(1);
+        Hotels.lay(middle, 0, HARD, 5);
+        Hotels.layOnes(middle, 0, SOFT, FIRM);
+        Hotels.dampen(middle, 20);
+        CHECKS.due("17: the middle one bears 2 and has 1 above", 's', () -> middle.sign(0));
+        Hotels.dampen(middle, 10);
+        CHECKS.due("17: the middle one bears 1 and has 1 above", 'w', () -> middle.sign(0));
+        SugarTowers uppermost = Hotels.stocked(1);
+        Hotels.lay(uppermost, 0, HARD, 5);
+        Hotels.layOnes(uppermost, 0, FIRM, SOFT);
+        Hotels.dampen(uppermost, 39);
+        CHECKS.due("17: the uppermost bears 1", 's', () -> uppermost.sign(0));
+        Hotels.dampen(uppermost, 1);
+        CHECKS.due("17: the uppermost bears 0", 'w', () -> uppermost.sign(0));
+        uppermost.take(0);
+        CHECKS.due("17: without it", 's', () -> uppermost.sign(0));
     }
 
     /** 18: At the dampness 0 and 99. */
@@ -489,6 +532,24 @@ public final class TowersEdgesTest {
         Hotels.layOnes(strong, 0, HARD, HARD, HARD);
         Hotels.humidityOfAllHours(strong, 99);
         CHECKS.dueThrow("19: it stands at 99", NoSuchElementException.class, () -> strong.breaksIn(0));
+    }
+
+    /** 19: A course of this tower, neither of one that breaks before nor of one that breaks after it. */
+    private static void breaksInOfThisTower() {
+        SugarTowers hotel = Hotels.stocked(4);
+        Hotels.layOnes(hotel, 0, SOFT, HARD, HARD);
+        Hotels.layOnes(hotel, 1, SOFT, HARD, HARD, HARD);
+        Hotels.layOnes(hotel, 2, FIRM, HARD);
+        Hotels.layOnes(hotel, 3, HARD, FIRM);
+        Hotels.humidityOfAllHours(hotel, 90);
+        CHECKS.due("19: at 32", 8, () -> hotel.breaksIn(0));
+        CHECKS.due("19: at 20", 5, () -> hotel.breaksIn(1));
+        CHECKS.due("19: at 80", 20, () -> hotel.breaksIn(2));
+        CHECKS.dueThrow("19: never", NoSuchElementException.class, () -> hotel.breaksIn(3));
+        CHECKS.due("25: only tower 1", 4, () -> hotel.pass(5));
+        CHECKS.due("19: 5 hours less", 3, () -> hotel.breaksIn(0));
+        CHECKS.dueThrow("19: no more", NoSuchElementException.class, () -> hotel.breaksIn(1));
+        CHECKS.due("19: 5 hours less, too", 15, () -> hotel.breaksIn(2));
     }
 
     /** 19: If no banquet was held, although one would be. */
